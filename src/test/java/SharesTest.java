@@ -1,3 +1,6 @@
+import java.math.BigInteger;
+import java.util.Arrays;
+
 /** Promises 23 to 27: SHARE, RESTS, THERE, THE SEED, WALKS. */
 public final class SharesTest {
     public static void main(String[] args) {
@@ -6,6 +9,7 @@ public final class SharesTest {
         restsEdges();
         there();
         seed();
+        draws();
         walks();
         walksOnTheLead();
         Due.end();
@@ -142,12 +146,55 @@ public final class SharesTest {
         Due.due("thirty times one", x.seed(0), thirty);
     }
 
-    /** A seed from which the next draw by 20 leaves just that. */
-    private static long seedFor(int draw) {
+    /** A seed from which the next draws by 20 leave just that. */
+    private static long seedFor(int... draws) {
         for (long seed = 0; ; seed++) {
-            long next = seed * 6364136223846793005L + 1442695040888963407L;
-            if ((next >>> 33) % 20 == draw) return seed;
+            if (Arrays.equals(drawsOf(seed, draws.length), draws)) return seed;
         }
+    }
+
+    private static int[] drawsOf(long seed, int many) {
+        BigInteger x = BigInteger.valueOf(seed);
+        int[] draws = new int[many];
+        for (int i = 0; i < many; i++) {
+            x = x.multiply(new BigInteger("6364136223846793005")).add(new BigInteger("1442695040888963407"));
+            x = x.mod(BigInteger.ONE.shiftLeft(64));
+            draws[i] = x.shiftRight(33).mod(BigInteger.valueOf(20)).intValue();
+        }
+        return draws;
+    }
+
+    private static void walksByDraws(String text, int want, int... draws) {
+        WhistleBack x = Due.walkOf(text);
+        x.seed(seedFor(draws));
+        Due.due("walks(" + draws.length + ") of " + text + " by " + Arrays.toString(draws), x.walks(draws.length), want);
+    }
+
+    private static void draws() {
+        for (int draw = 0; draw < 20; draw++) {
+            walksByDraws("D00W10W10W10W10", draw % 5 < 2 ? 1 : 0, draw);
+            walksByDraws("D00W90W00W90W00", draw / 5 % 2 == 0 ? 1 : 0, draw);
+        }
+        for (long seed = -3; seed < 3; seed++) {
+            WhistleBack x = Due.walkOf("D00W90W90");
+            x.seed(seed);
+            Due.due("walks(30) by " + seed, x.walks(30), Arrays.stream(drawsOf(seed, 30)).filter(draw -> draw < 10).count());
+        }
+        // Paid for, the word is strong enough when he is by the hare.
+        walksByDraws("D10W20T13", 2, 0, 1);
+        walksByDraws("D00W20T13", 1, 0, 1);
+        // One cheese is paid once.
+        walksByDraws("D10W21T24", 2, 0, 0, 2);
+        walksByDraws("D20W21T24", 3, 0, 0, 2);
+        // Of a word that there is not he runs all the same, and stays where he is then.
+        walksByDraws("D00W40", 0, 9, 4);
+        walksByDraws("D00W40", 1, 5, 4);
+        // What was owed before is not paid.
+        WhistleBack owed = Due.walkOf("D10W20T13");
+        owed.call(0);
+        owed.seed(seedFor(5, 1));
+        Due.due("walks(2), owed before", owed.walks(2), 0);
+        Due.due("still owed", owed.count(5), 0);
     }
 
     private static void walks() {

@@ -190,6 +190,7 @@ public final class WalkTest {
         Due.due("far of W11, hungry", x.word(1, 4), 7);
         WhistleBack none = Due.walkOf("D00W00W50T01");
         Due.due("far of W00", none.word(0, 4), -9);
+        Due.due("far of W10, a hare a yard off", Due.walkOf("D00W10T12").word(0, 4), 0);
         WhistleBack gap = Due.walkOf("D00W50T46");
         Due.due("comes(0, 0)", gap.comes(0, 0), 1);
         Due.due("comes(0, 4), where the hare is", gap.comes(0, 4), 0);

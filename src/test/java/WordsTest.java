@@ -8,6 +8,7 @@ public final class WordsTest {
         good();
         judge();
         judgeEdges();
+        fewerWords();
         nothingChanges();
         Due.end();
     }
@@ -90,6 +91,9 @@ public final class WordsTest {
         fewestOf("D00W01W61W01T09", 4, 1112);
         fewestOf("D00W31W01W61W61T09", 4, 1113);
         fewestOf("D00W91W61T09", 1, 1);
+        // Four calls are as many as are looked at.
+        fewestOf("D03W00W61T29", 4, 1112);
+        fewestOf("D02W00W61T29", -9, -9);
     }
 
     private static void good() {
@@ -164,11 +168,30 @@ public final class WordsTest {
         Due.due("runs to 9 at most", x.judge(6, 666666), -9);
         WhistleBack y = Due.walkOf("D09W40T05");
         Due.due("run by 1 only: 9 at most", y.judge(2, 61), 1);
-        WhistleBack z = Due.walkOf("D00W22T15");
-        // A run by 1 brings him to the hare; a run by more would bring him past it.
-        Due.due("call at 1", z.judge(2, 61), 1);
+        WhistleBack z = Due.walkOf("D01W80T19");
+        // A run by 1 leaves him by the hare; a run by 2 would bring him away from it.
+        Due.due("run, call", z.judge(2, 61), 1);
+        Due.due("run, run, call", z.judge(3, 661), -9);
+        WhistleBack hungry = Due.walkOf("D00W00");
+        Due.due("hungry, call", hungry.judge(2, 81), -9);
+        Due.due("hungry, not any more, call", hungry.judge(3, 881), 2);
         WhistleBack four = Due.walkOf("D00W90W90W90W90");
         Due.due("judge(4, 1234)", four.judge(4, 1234), -9);
+    }
+
+    /** Words of a walk before are no words any more. */
+    private static void fewerWords() {
+        WhistleBack x = Due.walkOf("D00W00W90W91");
+        Due.tell(x, "D00W00");
+        x.walk();
+        Due.due("best(0)", x.best(0), -9);
+        Due.due("fewest(true)", x.fewest(true), -9);
+        Due.due("judge(1, 2)", x.judge(1, 2), 0);
+        Due.due("comes(1, 0)", x.comes(1, 0), -1);
+        Due.tell(x, "D00W40T04");
+        x.walk();
+        Due.due("best(0)", x.best(0), 0);
+        Due.due("share(0, true)", x.share(0, true), 8);
     }
 
     private static void nothingChanges() {
